@@ -575,6 +575,7 @@ public final class PastSleep {
                 kind = END;
             } else if (isLetter(first)) {
                 readWord();
+                value = indexOf(tape, place, next);
             } else if (isDigit(first)) {
                 readNumber();
             } else {
@@ -590,7 +591,6 @@ public final class PastSleep {
                 letters = letters * 32 + tape[next] - 'a' + 1;
             }
             kind = next - place <= 8 ? WORD : STRANGE;
-            value = indexOf(tape, place, next);
         }
 
         private void readNumber() {
@@ -844,8 +844,8 @@ public final class PastSleep {
             int from = readNumber(0, MOST_TICKS - 1);
             readWord(Tokens.TO);
             int to = readNumber(from, MOST_TICKS - 1);
-            if (fault == 0) {
-                Arrays.fill(c.shut, from, to + 1, true);
+            for (int tick = from; tick <= to && fault == 0; tick++) {
+                c.shut[tick] = 1;
             }
         }
 
@@ -937,7 +937,7 @@ public final class PastSleep {
         static final int FACTS = -9;
 
         private final int[] facts = new int[Tokens.MANY - Tokens.DEPTH];
-        final boolean[] told = new boolean[3];
+        private final int[] told = new int[3];
         private final int[] from = new int[3];
         private final int[] to = new int[3];
         private final int[] steps = new int[MOST_SIGNS];
@@ -946,7 +946,7 @@ public final class PastSleep {
 
         void clear() {
             many = 0;
-            Arrays.fill(told, false);
+            Arrays.fill(told, 0);
         }
 
         void take(Laws other) {
@@ -963,7 +963,11 @@ public final class PastSleep {
 
         void end(int law) {
             to[law] = many;
-            told[law] = true;
+            told[law] = 1;
+        }
+
+        boolean isTold(int law) {
+            return told[law] != 0;
         }
 
         void add(int step) {
@@ -1058,7 +1062,7 @@ public final class PastSleep {
         final Sitter[] sitters = new Sitter[MOST_SEATS];
         final int[] sitterOn = new int[MOST_SEATS];
         final int[] cup = new int[MOST_SEATS];
-        final boolean[] shut = new boolean[MOST_TICKS];
+        final int[] shut = new int[MOST_TICKS];
         final int[] price = new int[4];
         final Laws laws = new Laws();
         int seats;
@@ -1082,7 +1086,7 @@ public final class PastSleep {
             feign = 9;
             Arrays.fill(sitterOn, NONE);
             Arrays.fill(cup, 0);
-            Arrays.fill(shut, false);
+            Arrays.fill(shut, 0);
             Arrays.fill(price, 1);
             laws.clear();
         }
@@ -1105,7 +1109,7 @@ public final class PastSleep {
 
         /** The AISLE is closed in TICKS that are SHUT and in those that are not of the flight. */
         boolean closed(int tick) {
-            return tick < 0 || tick >= flight || tick >= MOST_TICKS || shut[tick];
+            return tick < 0 || tick >= flight || tick >= MOST_TICKS || shut[tick] != 0;
         }
 
         int waking(State s, int who, int tick) {
@@ -1113,7 +1117,7 @@ public final class PastSleep {
             if (one.kind == FEIGNER) {
                 return 10;
             }
-            if (!laws.told[WAKE_LAW]) {
+            if (!laws.isTold(WAKE_LAW)) {
                 return 10 - one.deep();
             }
             setSleeper(s, who, tick);
@@ -1121,7 +1125,7 @@ public final class PastSleep {
         }
 
         int spilling(State s, int who, int tick, int side) {
-            if (!laws.told[SPILL_LAW]) {
+            if (!laws.isTold(SPILL_LAW)) {
                 return 3 + side;
             }
             setSleeper(s, who, tick);
@@ -1132,7 +1136,7 @@ public final class PastSleep {
 
         /** The TICKS that one is OUT who goes in a TICK. */
         int away(int tick, int out) {
-            if (!laws.told[QUEUE_LAW]) {
+            if (!laws.isTold(QUEUE_LAW)) {
                 return 1;
             }
             laws.setFact(Tokens.TICK, tick);
@@ -1351,6 +1355,7 @@ public final class PastSleep {
         private final int[] place = new int[MOST_SEATS];
         private final int[] wake = new int[MOST_SEATS];
         private final int[] spill = new int[MOST_SEATS * 2];
+        private final int[] climb = new int[MOST_SEATS];
         private final int[] price = new int[4];
         int many;
 
@@ -1361,12 +1366,17 @@ public final class PastSleep {
                 int other = c.sitterOn[i];
                 if (other != NONE && s.asleep(c, other, tick)) {
                     place[many] = i;
-                    wake[many] = c.waking(s, other, tick);
-                    spill[many * 2] = c.spilling(s, other, tick, 0);
-                    spill[many * 2 + 1] = c.spilling(s, other, tick, 1);
-                    many++;
+                    addSleeper(c.waking(s, other, tick), c.spilling(s, other, tick, 0), c.spilling(s, other, tick, 1));
                 }
             }
+        }
+
+        private void addSleeper(int waking, int knees, int armrests) {
+            wake[many] = waking;
+            spill[many * 2] = knees;
+            spill[many * 2 + 1] = armrests;
+            climb[many] = price[1] * armrests < price[1] * knees ? 2 : 1;
+            many++;
         }
 
         static int wayAt(int ways, int digit) {
@@ -1400,11 +1410,12 @@ public final class PastSleep {
             return paid(ways) + price[2] * (WHOLE - through(ways, false));
         }
 
+        /** Climbing past a sleeper, one side is never dearer, so the choice is whom to climb past. */
         int cheapest() {
             int found = 0;
             int least = whole(0);
-            for (int i = 1; i < THREES[many]; i++) {
-                int ways = spread(i);
+            for (int climbed = 1; climbed < 1 << many; climbed++) {
+                int ways = waysPast(climbed);
                 int cost = whole(ways);
                 if (cost < least) {
                     found = ways;
@@ -1414,10 +1425,10 @@ public final class PastSleep {
             return found;
         }
 
-        private int spread(int choice) {
+        private int waysPast(int climbed) {
             int ways = 0;
             for (int i = 0; i < many; i++) {
-                ways += wayAt(choice, i) * THREES[place[i]];
+                ways += (climbed >> i & 1) * climb[i] * THREES[place[i]];
             }
             return ways;
         }
