@@ -35,9 +35,15 @@ public final class TellsTest {
         Checks.due("from TICK 2 on a can go at once only: with each of b's 0 to 7", x.rests(3, -1), 8);
         Checks.due("0, 7", x.rests(3, 7), 7);
         String b = B.replace("sitter b", "sitter z").replace("limit 9", "limit 49");
-        x = Checks.of("row 3 flight 10;" + b + A);
-        Checks.due("the least sitter's digit is the highest: z at 10 to 12 or a's, a at 0", x.rests(3, 0) % 12, 0);
-        Checks.due("z pays 4 till need 9, 3 from 10 on: a TICK of a's is not that good", x.rests(3, -1) > 0, true);
+        x = Checks.of("row 3 flight 10;" + A.replace("at 0", "at 1") + b.replace("at 1", "at 0"));
+        // z pays 4 till TICK 9, 3 at 10 and 11, and 3 more if a goes at another TICK: so z goes with a, at 0 to 2.
+        Checks.due("a at 0 to 2, z with a", x.rests(3, -1), 3);
+        Checks.due("1, 1", x.rests(3, 1), 13);
+        x = Checks.of("row 3 flight 10;" + b.replace("needs 1", "needs 9").replace("limit 49", "limit 99") + A.replace("at 0", "at 2"));
+        // z pays 9, 9, 8, 7, 6, 5, 4, 3, 2, 1, 0, 0 and 3 more, so goes at 10 or 11; a at 0 to 2.
+        Checks.due("z's digit is the highest", x.rests(3, 0), 10 * 12);
+        Checks.due("and a's the lowest", x.rests(3, 1), 10 * 12 + 1);
+        Checks.due("six", x.rests(3, -1), 6);
     }
 
     private static void restsOfThree() {
@@ -256,6 +262,11 @@ public final class TellsTest {
         Checks.due("b sleeps", x.sitter(1, 3), 1);
         x.mark(1, true);
         Checks.due("the MARK itself did not change", x.count(3), 1);
+        x = Checks.of("row 2 flight 4;" + A + B + "cup 1;wake cup*10;");
+        x.mark(0, false);
+        Checks.due("another", Checks.cabin(x, TWO), 0);
+        x.mark(0, true);
+        Checks.due("told cups, too: b wakes", x.flights(3, 1, 1), 0);
     }
 
     private static void counts() {

@@ -107,6 +107,8 @@ public final class WaysTest {
         Checks.due("nobody", x.side(-1), -1);
         x = Checks.of(ROW + ANN + BOB + CAT + "spill 5-side;");
         Checks.due("less over the armrests", x.side(1), 1);
+        x = Checks.of(ROW + ANN + BOB + CAT + "spill 5-(side=1)*2;");
+        Checks.due("side is 0 or 1", x.side(1), 1);
         x = Checks.of(ROW + ANN + BOB + CAT + "spill 15-side;");
         Checks.due("10 and 10", x.side(1), 0);
         x = Checks.of(ROW + ANN + BOB + CAT + "spill legs-gap*3+(depth<5)*(4-side*2);");
