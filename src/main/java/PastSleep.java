@@ -673,7 +673,22 @@ public final class PastSleep {
             tokens.begin();
             readRow();
             for (int i = 0; i < MOST_SIGNS && fault == 0 && tokens.kind != Tokens.END; i++) {
-                readLine();
+                int word = tokens.kind == Tokens.WORD ? tokens.value : Tokens.OTHER;
+                checkTimes(word);
+                switch (word) {
+                    case Tokens.SITTER: readSitter(); break;
+                    case Tokens.CUP: readCup(); break;
+                    case Tokens.BELT: readShut(word); break;
+                    case Tokens.TROLLEY: readShut(word); break;
+                    case Tokens.GAP: readWord(word); c.gap = readNumber(5, 20); break;
+                    case Tokens.PRICE: readPrices(); break;
+                    case Tokens.FEIGN: readWord(word); c.feign = readNumber(0, 10); break;
+                    case Tokens.WAKE: readLaw(WAKE_LAW); break;
+                    case Tokens.SPILL: readLaw(SPILL_LAW); break;
+                    case Tokens.QUEUE: readLaw(QUEUE_LAW); break;
+                    default: wrong(1);
+                }
+                readSign(';');
             }
             return fault;
         }
@@ -725,25 +740,6 @@ public final class PastSleep {
             c.seats = readNumber(2, MOST_SEATS);
             readWord(Tokens.FLIGHT);
             c.flight = readNumber(1, MOST_TICKS);
-            readSign(';');
-        }
-
-        private void readLine() {
-            int word = tokens.kind == Tokens.WORD ? tokens.value : Tokens.OTHER;
-            checkTimes(word);
-            switch (word) {
-                case Tokens.SITTER: readSitter(); break;
-                case Tokens.CUP: readCup(); break;
-                case Tokens.BELT: readShut(word); break;
-                case Tokens.TROLLEY: readShut(word); break;
-                case Tokens.GAP: readWord(word); c.gap = readNumber(5, 20); break;
-                case Tokens.PRICE: readPrices(); break;
-                case Tokens.FEIGN: readWord(word); c.feign = readNumber(0, 10); break;
-                case Tokens.WAKE: readLaw(WAKE_LAW); break;
-                case Tokens.SPILL: readLaw(SPILL_LAW); break;
-                case Tokens.QUEUE: readLaw(QUEUE_LAW); break;
-                default: wrong(1);
-            }
             readSign(';');
         }
 
