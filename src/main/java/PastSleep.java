@@ -51,7 +51,7 @@ public final class PastSleep {
 
     public PastSleep() {
         tokens = new Tokens();
-        reader = new Reader(tokens);
+        reader = new Reader();
         ahead = new Ahead();
         plans = new Plans();
         habits = new Habits();
@@ -83,7 +83,7 @@ public final class PastSleep {
     }
 
     public int cabin() {
-        int fault = reader.read(spare);
+        int fault = reader.read(tokens, spare);
         tokens.many = 0;
         if (fault != 0) {
             return fault;
@@ -655,17 +655,14 @@ public final class PastSleep {
         private static final int MOST_WITHIN = 5;
         private static final int JOINS = 4;
 
-        private final Tokens tokens;
         private final long[] names = new long[MOST_SEATS];
         private final int[] times = new int[Tokens.MANY];
+        private Tokens tokens;
         private Cabin c;
         private int fault;
 
-        Reader(Tokens tokens) {
-            this.tokens = tokens;
-        }
-
-        int read(Cabin into) {
+        int read(Tokens from, Cabin into) {
+            tokens = from;
             c = into;
             c.clear();
             fault = 0;
