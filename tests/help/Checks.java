@@ -6,6 +6,7 @@ final class Checks {
 
     private static int wrong = 0;
     private static int made = 0;
+    private static String about = "";
 
     private Checks() {
     }
@@ -15,9 +16,18 @@ final class Checks {
         if (got != want) {
             wrong++;
             if (wrong <= 40) {
-                System.out.println(call + " answered " + told(got) + ", due is " + told(want));
+                System.out.println(about + call + " answered " + told(got) + ", due is " + told(want));
             }
         }
+    }
+
+    /** What follows looks at one sentence of the document that names an edge, told under a promise. */
+    static void edge(int promise, String sentence) {
+        about = "promise " + promise + ", \"" + sentence + "\": ";
+    }
+
+    static void due(String call, String got, String want) {
+        due(call + ": " + got + " for " + want, got.equals(want), true);
     }
 
     static void due(String call, boolean got, boolean want) {
@@ -62,6 +72,12 @@ final class Checks {
         PastSleep x = new PastSleep();
         due("cabin of " + text, cabin(x, text), 0);
         return x;
+    }
+
+    /** A line of a sitter: his SEAT, needs, limit, goes, depth, legs, and the TICKS of his sleep. */
+    static String sitter(String name, String kind, int... of) {
+        return "sitter " + name + " " + kind + " at " + of[0] + " needs " + of[1] + " limit " + of[2] + " goes " + of[3]
+            + " depth " + of[4] + " legs " + of[5] + " sleeps " + of[6] + " to " + of[7] + ";";
     }
 
     static void fault(String text, int kind, int place) {
