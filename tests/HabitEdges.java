@@ -327,10 +327,11 @@ public final class HabitEdges {
     private static void seatedPence() {
         Checks.edge(23, "what NONE: PENCE");
         String two = sitter("a", 0, 4, 8, 0, 0) + sitter("b", 1, 4, 8, 0, 9);
-        // b at the aisle is woken at 2; b by the window sleeps till 9; 12, 16 .. are above 9 from behind 2 on
+        // b at the aisle is woken at 2 and at 6, as a comes back, and TOO LATE behind 2; by the window behind 2 to 8
         String late = two.replace("limit 99", "limit 9");
-        Checks.due("woken once for 3, b TOO LATE behind 2 or all the TICKS", Checks.of(row(2, 9) + late + "price 3 0 9 0;").seated(-1),
-            Math.min(Checks.of(row(2, 9) + late + "price 3 0 9 0;").habits(-1, 2), 9 * 7));
+        Checks.due("b at the aisle", Checks.of(row(2, 9) + late + "price 3 0 9 0;").seated(-1), 2 * 3 + 9);
+        Checks.due("b at the aisle", Checks.of(row(2, 9) + late + "price 3 0 9 0;").seated(1), 1);
+        Checks.due("b by the window", Checks.of(row(2, 9) + late + "price 99 0 1 0;").seated(-1), 7);
         PastSleep x = Checks.of(row(2, 9) + late + "price 99 0 0 0;");
         Checks.due("b by the window", x.seated(0), 1);
         Checks.due("for nothing", x.seated(-1), 0);
