@@ -343,12 +343,16 @@ public final class HabitEdges {
         Checks.due("b on SEAT 1", x.seated(0), 1);
         Checks.due("a on SEAT 4", x.seated(1), 0);
         Checks.due("no third", x.seated(2), -2);
-        Checks.edge(23, "by told SEATS: though they changed CABINS since");
+        Checks.edge(23, "the order of all sitters on their SEATS: of the CABIN as it is now");
         x.mark(0, false);
-        Checks.cabin(x, row(2, 9) + sitter("a", 0, 0, 8, 0, 0));
-        Checks.due("one alone", x.seated(1), -2);
+        Checks.cabin(x, row(2, 9) + sitter("a", 0, 4, 99, 0, 9).replace("limit 99", "limit 7") + sitter("b", 1, 4, 8, 0, 0) + "price 1 1 9 1;");
+        Checks.due("TOO LATE behind 1 to 8", x.seated(-1), 72);
+        Checks.due("a by the window", x.seated(0), 0);
         x.mark(0, true);
-        Checks.due("b again", x.seated(0), 1);
+        Checks.due("b by the window again", x.seated(0), 1);
+        Checks.due("for nothing", x.seated(-1), 0);
+        Checks.cabin(x, row(5, 9) + "belt 0 to 9");
+        Checks.due("a FAULT: as it was", x.seated(0), 1);
     }
 
     private static void aisleOthers() {

@@ -115,6 +115,9 @@ public final class MarkEdges {
         String ahead = Look.whole(x);
         x.mark(3, false);
         Checks.due("another", Checks.cabin(x, OTHER), 0);
+        x.touch(0, false);
+        x.went(0, 7);
+        x.went(0, 9);
         Checks.due("changed", x.count(0), 5);
         Checks.due("back", x.mark(3, true), true);
         Checks.due("all as it was", Look.whole(x), ahead);

@@ -29,6 +29,7 @@ public final class TapeEdges {
         onceNumbers();
         anyOrder();
         everyToken();
+        leftOutOrTwice();
         facts();
         joins();
         within();
@@ -295,6 +296,13 @@ public final class TapeEdges {
         }
         Checks.fault(five + "sitter nf plain at 0", 3, five.length() + 19);
         Checks.fault(five + "sitter nf plain at 5", 4, five.length() + 19);
+        for (String alike : new String[] {"a aa aaa aaaa aaaaa", "z zz az za zaz", "abcdefgh bcdefgh abcdefg abcdefgi bbcdefgh", "q b qb bq bqb"}) {
+            String all = five;
+            for (int i = 0; i < 5; i++) {
+                all = all.replace("sitter n" + (char) ('a' + i), "sitter " + alike.split(" ")[i]);
+            }
+            Checks.of(all);
+        }
         Checks.edge(3, "Without a FAULT it is the CABIN: a NAME of the last one may be told again");
         PastSleep x = Checks.of(ROW + ANN);
         Checks.due("ann again", Checks.cabin(x, ROW + ANN), 0);
@@ -464,6 +472,30 @@ public final class TapeEdges {
             }
         }
         Checks.due("lines", cut, true);
+    }
+
+    /** Each token but those of the E's is left out, and told twice: what stands there then can't. */
+    private static void leftOutOrTwice() {
+        Checks.edge(3, "1: it can't stand there: a token is left out, or told twice");
+        String text = "row 3 flight 9 ; sitter ann plain at 0 needs 1 limit 9 goes 5 depth 3 legs 30 sleeps 0 to 4 ; cup 0 ; belt 1 to 2 ;"
+            + " trolley 3 to 4 ; gap 6 ; feign 5 ; wake 1 ; spill 1 ; queue 1 ;";
+        String[] all = text.split(" ");
+        Checks.of(text);
+        for (int out = 0; out < all.length; out++) {
+            StringBuilder left = new StringBuilder();
+            StringBuilder twice = new StringBuilder();
+            int place = 0;
+            for (int i = 0; i < all.length; i++) {
+                place = i == out ? left.length() : place;
+                left.append(i == out ? "" : all[i] + " ");
+                twice.append(all[i]).append(' ').append(i == out ? all[i] + " " : "");
+            }
+            Checks.fault(left.toString(), 1, place);
+            Checks.fault(twice.toString(), 1, place + all[out].length() + 1);
+        }
+        Checks.fault(ROW + "1 2 3 4;", 1, ROW.length());
+        Checks.fault(ROW + "price price 1 2 3 4;", 1, ROW.length() + 6);
+        Checks.fault(ROW + "price 1 2 3 4 gap 9;", 1, ROW.length() + 14);
     }
 
     private static void facts() {

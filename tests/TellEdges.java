@@ -10,6 +10,7 @@ public final class TellEdges {
         restsCut();
         restsDigits();
         restsOfThree();
+        restsThree();
         restsNearer();
         restsEqual();
         restsBehindTheEnd();
@@ -145,6 +146,15 @@ public final class TellEdges {
         Checks.due("a with b or with c", x.rests(7, -1), 2);
         Checks.due("with b", x.rests(7, 0), 10);
         Checks.due("with c", x.rests(7, 1), 144 * 10 + 10);
+    }
+
+    private static void restsThree() {
+        Checks.edge(26, "each pays 3, and (limit - need) by 10: as much, more and less");
+        // b at 7 alone (limit 64, needs 9); a pays 9 9 8 7 6 5 4 3 2 1 0 0: as much with b at 7 as alone at 10 or 11
+        Checks.due("3 are 3", of(2, sitter("a", 0, 9, 99) + sitter("b", 1, 9, 64)).rests(3, -1), 3);
+        Checks.due("with b", of(2, sitter("a", 0, 9, 99) + sitter("b", 1, 9, 64)).rests(3, 0), 7 * 12 + 7);
+        Checks.due("b at 6: 4 are more than 3", of(2, sitter("a", 0, 9, 99) + sitter("b", 1, 9, 55)).rests(3, -1), 2);
+        Checks.due("b at 8: 2 are less than 3", of(2, sitter("a", 0, 9, 99) + sitter("b", 1, 9, 73)).rests(3, -1), 1);
     }
 
     private static void restsNearer() {

@@ -337,6 +337,9 @@ public final class WaysEdges {
         Checks.due("asked", five("price 1 99 0 1;").best(0), 0);
         Checks.due("b, d before their knees, c, e over their armrests",
             five("price 9 1 9 1;spill (depth=2 or depth=4)*(5-side)+(depth=1 or depth=3)*(4+side);").best(0), 3 + 18 + 27 + 162);
+        String both = "row 3 flight 9;" + one("a", 0, 5, 60, 5, 0, 0) + one("b", 1, 5, 60, 1, 0, 9) + one("c", 2, 5, 60, 8, 0, 9);
+        Checks.due("asked for 10, b climbed past for 5 + 1, c for 5 + 8, both for 9", Checks.of(both + "price 5 10 0 1;spill depth;").best(0), 3);
+        Checks.due("c alone", Checks.of(both.replace("depth 1", "depth 9").replace("depth 8", "depth 1") + "price 5 10 0 1;spill depth;").best(0), 9);
         Checks.due("e alone climbed past", five("price 1 9 0 1;spill 2-(depth=4);").best(0), 81);
     }
 
