@@ -170,6 +170,16 @@ public final class AskEdges {
             Checks.due("WAKING", x.odds(0, 0), i);
             Checks.due("SPILLING", x.odds(0, 1), i);
         }
+        Checks.edge(3, "An E: nothing of those of the CABINS ahead is in it");
+        for (int i = 0; i < 6; i++) {
+            String text = "row 2 flight 9;" + Checks.sitter("a", "plain", 0, 1, 9, 9, 5, 30, 0, 0);
+            Checks.due("a longer one", Checks.cabin(x, text + "wake not 5;spill not 0;"), 0);
+            Checks.due("not 5", x.odds(0, 0), 0);
+            Checks.due("a longer one, too", i % 2 == 0 ? Checks.cabin(x, text + "spill not not not 1;") : 0, 0);
+            Checks.due("a short one", Checks.cabin(x, text + "wake 5;"), 0);
+            Checks.due("5", x.odds(0, 0), 5);
+            Checks.due("3 as none is told", x.odds(0, 1), 3);
+        }
     }
 
     private static void refusing() {

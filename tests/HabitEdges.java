@@ -31,6 +31,7 @@ public final class HabitEdges {
         aisleBelow();
         aisleAbove();
         aisleNearest();
+        aisleIsEmpty();
         beerOthers();
         beerNine();
         beerDrinker();
@@ -403,6 +404,15 @@ public final class HabitEdges {
         Checks.due("a and b change, c stays", Checks.aisle(x, 0), 35);
         Checks.due("c is woken at 2 by a", x.habits(2, 1), 1);
         Checks.due("and at the aisle by b, then awake for a", Checks.aisle(x, 2), 0);
+    }
+
+    private static void aisleIsEmpty() {
+        Checks.edge(24, "by changing SEATS with who sits nearest to the aisle: he has the other's SEAT then, the one at the aisle stays empty");
+        // b by the window goes at 2, 5, 8 and wakes c and a at 2, at 6 as he comes back; c goes at 3, 6, 9 and wakes a
+        // at 10 as he comes back. Were b ahead of c yet, c slept on, and a were woken at 2 and 6 alone.
+        PastSleep x = Checks.of(row(4, 11) + sitter("a", 0, 0, 99, 0, 72) + sitter("c", 1, 4, 8, 0, 72) + sitter("b", 2, 4, 8, 0, 0));
+        Checks.due("a by the window is not woken", x.habits(0, 1), 0);
+        Checks.due("on SEAT 2 of 4 thrice", Checks.aisle(x, 0), -3);
     }
 
     private static void beerOthers() {

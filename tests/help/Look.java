@@ -13,7 +13,8 @@ final class Look {
             for (int what = 0; what <= 9; what++) {
                 all.append(x.sitter(i, what)).append(' ');
             }
-            all.append(x.truly(i, 0)).append('/').append(x.truly(i, 1)).append(' ').append(x.fits(i, 0)).append(' ');
+            all.append(x.truly(i, 0)).append('/').append(x.truly(i, 1)).append(' ').append(x.fits(i, 0)).append(' ')
+                .append(x.fits(i, 1)).append(' ');
         }
         for (int seat = 0; seat < x.count(0); seat++) {
             for (int what = 0; what <= 2; what++) {
